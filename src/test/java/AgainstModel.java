@@ -162,7 +162,7 @@ public final class AgainstModel {
         int c = number(12);
         int i = number(6);
         int side = number(2);
-        same("safe(" + w + ", " + c + ")", x.safe(w, c), m.safe(w, c));
+        if (random.nextBoolean()) same("safe(" + w + ", " + c + ")", x.safe(w, c), m.safe(w, c));
         same("safeAt(" + w + ", " + c + ", " + i + ")", x.safeAt(w, c, i), m.safeAt(w, c, i));
         same("toLook(" + side + ")", x.toLook(side), m.toLook(side));
     }

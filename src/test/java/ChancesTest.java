@@ -64,6 +64,11 @@ public final class ChancesTest {
         wire.arm(1);
         chance(wire, 0, 1, 1, 2);
         chance(wire, 0, 3, 3, 4);
+        // A BEAST sets off the NET it would have come to next, and goes on: its steps count all the same.
+        TrapsWatchTraps beast = Due.woodOf("FX04X05X06X07T0101T0204T0304W01G00-");
+        chance(beast, 0, 2, 0, 1);
+        chance(beast, 0, 3, 1, 4);
+        chance(beast, 0, 4, 1, 4);
         // A SHAM sets off nothing, and does not catch.
         TrapsWatchTraps sham = Due.woodOf("FX04X05X06X07T0103T0200W01G000");
         chance(sham, 0, 2, 1, 2);

@@ -9,6 +9,7 @@ public final class WaysTest {
         known();
         shut();
         theWay();
+        theWayAlone();
         toLook();
         Due.end();
     }
@@ -99,6 +100,18 @@ public final class WaysTest {
             Due.due("safeAt(" + walker + ", " + cell + ", " + i + ")", x.safeAt(walker, cell, i), cells[i]);
         }
         Due.due("no more", x.safeAt(walker, cell, cells.length), TrapsWatchTraps.NONE);
+    }
+
+    /** Each answer of safeAt stands by itself, whatever way was asked for ahead of it. */
+    private static void theWayAlone() {
+        TrapsWatchTraps x = Due.woodOf("FT0600G000G110");
+        Due.due("the first thing asked", x.safeAt(0, 11, 3), 7);
+        Due.due("safe to another CELL", x.safe(0, 8), 2);
+        Due.due("not that way", x.safeAt(0, 11, 3), 7);
+        Due.due("safe of another", x.safe(1, 9), 2);
+        Due.due("not its way", x.safeAt(0, 9, 0), 1);
+        Due.due("safe where a TRAP is", x.safe(0, 6), TrapsWatchTraps.NONE);
+        Due.due("not that one", x.safeAt(1, 2, 1), 3);
     }
 
     private static void theWay() {

@@ -16,6 +16,7 @@ public final class WoodTest {
         faultOfEnds();
         wood();
         woodBeginsAnew();
+        woodLeavesNothing();
         trap();
         walker();
         near();
@@ -263,6 +264,32 @@ public final class WoodTest {
         Due.due("nobody CAUGHT", x.count(4), 0);
         Due.due("where it was told", x.walker(1, 0), 0);
         Due.due("only their own", x.count(6), 2);
+    }
+
+    /** What an earlier wood had, the next one has not: kinds, what was woken, acts. */
+    private static void woodLeavesNothing() {
+        TrapsWatchTraps x = Due.woodOf("FT0002T0103T0204T0300G040");
+        x.step(0, 0);
+        Due.due("woken", x.trap(0, 5), 1);
+        x.step(0, 4);
+        Due.tell(x, "FT0003T0100T0201T0304G00-G010");
+        Due.due("wood()", x.wood(), 42);
+        Due.due("no ACTS", x.count(8), 0);
+        Due.due("undo()", x.undo(), TrapsWatchTraps.STATE);
+        Due.due("not woken", x.trap(0, 5), 0);
+        Due.due("no SHAM any more", x.sprung(1), 2);
+        Due.due("a SNARE where a SHAM was", x.step(0, 1), 2);
+        Due.due("a BEAST is free", x.walker(0, 2), 0);
+        Due.due("a WIRE where a NET was", x.step(0, 2), 4);
+        Due.due("a BEAST is free", x.walker(0, 2), 0);
+        Due.due("a NET where a SNARE was", x.step(0, 3), 8);
+        Due.due("a BEAST is CAUGHT", x.walker(0, 3), 3);
+        Due.tell(x, "FT0001T0101G040G050");
+        Due.due("wood()", x.wood(), 22);
+        Due.due("a WIRE where a DOUBLE one was", x.step(0, 0), 1);
+        Due.due("it catches nobody", x.count(4), 0);
+        Due.due("a WIRE where a SNARE was", x.step(1, 1), 2);
+        Due.due("it catches nobody", x.count(4), 0);
     }
 
     private static void trap() {

@@ -143,6 +143,10 @@ public final class WoodTest {
         fault("FT0000T0100W00", 13);
         fault("FT0000T0100W02", 13);
         fault("FT0000T0100W0-", 13);
+        // 32 above and below '1': a shift by these is one by 1.
+        fault("FT0000T0100W0Q", 13);
+        fault("FT0000T0100W0\21", 13);
+        fault("FT0000T0100WQ", 12);
         fault("FT0000T0100W01", none);
         fault("FT0000T0100W01W0", 15);
         fault("FT0000T0100W01W10", none);

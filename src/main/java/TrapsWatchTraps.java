@@ -738,11 +738,13 @@ public final class TrapsWatchTraps {
             if (place < 2) {
                 return takeOfCell(sign, ALL_CELLS & ~into.closed);
             }
-            int side = sign == '-' ? NONE : sign - '0';
-            if (side != NONE && !isSide(side)) {
+            // A beast is told by its sign alone: a sign below '0' makes a figure that may look like NONE.
+            boolean isBeast = sign == '-';
+            int figure = sign - '0';
+            if (!isBeast && !isSide(figure)) {
                 return false;
             }
-            into.addWalker(one, side);
+            into.addWalker(one, isBeast ? NONE : figure);
             part = BETWEEN;
             return true;
         }

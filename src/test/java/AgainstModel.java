@@ -98,6 +98,8 @@ public final class AgainstModel {
         if (how == 1) return below;
         if (how == 2) return random.nextInt();
         if (how == 3) return random.nextBoolean() ? Integer.MIN_VALUE : Integer.MAX_VALUE;
+        // NONE and the refusals are among these, and numbers by which a shift wraps.
+        if (how == 4) return random.nextInt(141) - 70;
         return random.nextInt(below);
     }
 

@@ -174,7 +174,7 @@ final class WoodModel {
 
     private static final Pattern PART = Pattern.compile(
             "T(0[0-9]|1[01])([01])([0-4])|W([0-5])([0-5])|X(0[0-9]|1[01])|G(0[0-9]|1[01])([01-])");
-    private static final List<String> PARTS = everyPart();
+    static final List<String> PARTS = everyPart();
 
     private static List<String> everyPart() {
         List<String> parts = new ArrayList<>();
@@ -229,7 +229,7 @@ final class WoodModel {
         return w.walkers.add(a);
     }
 
-    private static boolean canBecome(String start) {
+    static boolean canBecome(String start) {
         if (parse(start) != null || start.isEmpty()) return true;
         for (int k = start.length() - 1; k >= 1 && k >= start.length() - 5; k--) {
             String head = start.substring(0, k);

@@ -188,6 +188,9 @@ public final class WoodTest {
         fault("FG112", 4);
         fault("FG11/", 4);
         fault("FG11.", 4);
+        // Nine below '0': its figure is -9, as NONE is.
+        fault("FG00'", 4);
+        fault("FG11'G000", 4);
         fault("FG12", 3);
         fault("FG3", 2);
         fault("FG000G000G001G00-", none);

@@ -204,23 +204,23 @@ public final class ActsTest {
         TrapsWatchTraps x = Due.woodOf("FT0502T0614T0100W01W12G040G061G00-");
         Due.due("undo() of none", x.undo(), TrapsWatchTraps.STATE);
         String[] told = new String[8];
-        told[0] = Due.all(x);
+        told[0] = Due.brief(x);
         Due.due("wakes", x.step(0, 5), 0);
-        told[1] = Due.all(x);
+        told[1] = Due.brief(x);
         Due.due("step off", x.step(0, 4), 0);
-        told[2] = Due.all(x);
+        told[2] = Due.brief(x);
         Due.due("SPRINGS", x.step(0, 5), 7);
-        told[3] = Due.all(x);
+        told[3] = Due.brief(x);
         Due.due("free", x.free(0), 0);
-        told[4] = Due.all(x);
+        told[4] = Due.brief(x);
         Due.due("arm", x.arm(2), 0);
-        told[5] = Due.all(x);
+        told[5] = Due.brief(x);
         Due.due("step of a BEAST", x.step(2, 1), 4);
-        told[6] = Due.all(x);
+        told[6] = Due.brief(x);
         Due.due("look", x.look(0, 3), 0);
         for (int left = 6; left >= 0; left--) {
             Due.due("undo()", x.undo(), left);
-            Due.dueSame("undone to " + left, Due.all(x), told[left]);
+            Due.dueSame("undone to " + left, Due.brief(x), told[left]);
         }
         Due.due("undo() of no more", x.undo(), TrapsWatchTraps.STATE);
         Due.due("look(1, 9)", x.look(1, 9), 1);

@@ -2,7 +2,7 @@ import java.util.Random;
 
 /** Random runs of at most 512 calls, each answer beside the model's; the numbers drawn are the same every time. */
 public final class AgainstModel {
-    private static final int RUNS = 1500;
+    private static final int RUNS = 1700;
     private static final String SIGNS = "FTWXG-0123456789x";
     private final Random random;
     private final TrapsWatchTraps x = new TrapsWatchTraps();
@@ -22,7 +22,8 @@ public final class AgainstModel {
     }
 
     private void run() {
-        int length = 40 + random.nextInt(460);
+        // A text told last takes up to 67 calls more: all stay within the 512 that are promised.
+        int length = 40 + random.nextInt(400);
         tellWood();
         while (calls < length && !Due.isWrong()) {
             if (random.nextInt(60) == 0) {

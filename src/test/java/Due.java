@@ -2,8 +2,14 @@
 final class Due {
     private static int right = 0;
     private static int wrong = 0;
+    private static String subject = "";
 
     private Due() {
+    }
+
+    /** What the answers behind this are about; it is told ahead of each that is not as due. */
+    static void about(String what) {
+        subject = what + ": ";
     }
 
     static void due(String call, long got, long want) {
@@ -13,7 +19,7 @@ final class Due {
         }
         wrong++;
         if (wrong <= 50) {
-            System.out.println(call + " answered " + got + ", due is " + want);
+            System.out.println(subject + call + " answered " + got + ", due is " + want);
         }
     }
 
@@ -88,6 +94,21 @@ final class Due {
         long seed = x.seed(0);
         x.seed(seed);
         return told.append(seed).append(' ').append(x.fault()).toString();
+    }
+
+    /** All that acts and frost change, in 21 calls: where all() would go beyond the 512 that an object promises. */
+    static String brief(TrapsWatchTraps x) {
+        StringBuilder told = new StringBuilder();
+        for (int what = 3; what <= 9; what++) {
+            told.append(x.count(what)).append(' ');
+        }
+        for (int w = 0; w < 4; w++) {
+            told.append(x.walker(w, 0)).append(' ').append(x.walker(w, 3)).append(' ');
+        }
+        for (int t = 0; t < 6; t++) {
+            told.append(x.trap(t, 5)).append(' ');
+        }
+        return told.toString();
     }
 
     static void dueSame(String what, String got, String want) {

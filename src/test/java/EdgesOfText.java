@@ -290,6 +290,15 @@ final class EdgesOfText {
         fork("FT0000T0100W01W10T0200", "TWXG");
         fork("FT0000T0100W01W10T0200W", "012");
         fork("FT0000T0100W01W10T0200W0", "2");
+        // One wire alone is left, each in turn: it can be told, by its own figures and no others.
+        String[] wires = {"W01", "W02", "W10", "W12", "W20", "W21"};
+        for (String left : wires) {
+            String told = "FT0000T0100T0200" + String.join("", wires).replace(left, "");
+            fork(told, "TWXG");
+            fork(told + "W", left.substring(1, 2));
+            fork(told + left.substring(0, 2), left.substring(2));
+            fork(told + left, "TXG");
+        }
     }
 
     private static void closedOnce() {
@@ -454,7 +463,8 @@ final class EdgesOfText {
     }
 
     private static void woodBeginsAnew() {
-        Sentence.of("Promise 5", "THE TEXT is THE WOOD (no FROST, THE ROW of ACTS is empty, what was kept is gone; THE SEED stays):");
+        Sentence.of("Promise 5", "THE TEXT is THE WOOD (no FROST, THE ROW of ACTS is empty, what was kept is gone; "
+                + "THE SEED stays):");
         String[] texts = {"F", "FT0713X05G001", Twins.BYTES_64, "FT0502T0614T0100T1103T0812T0304W01W12X09G040G061G00-G101",
             "FT0001T0101T0201T0301T0601T0501G070G10-", "FT0003T0103T0203T0303T0603T0503G070G10-",
             "FT0000T0100T0200T0300T0600T0500G070G10-"};

@@ -28,6 +28,7 @@ public final class FaceTest {
 
     public static void main(String[] args) throws Exception {
         face();
+        faceOfDocument();
         nested();
         source();
         extremes();
@@ -56,6 +57,26 @@ public final class FaceTest {
         Constructor<?>[] made = c.getDeclaredConstructors();
         Due.due("constructors", made.length, 1);
         Due.dueTrue("public, without arguments", Modifier.isPublic(made[0].getModifiers()) && made[0].getParameterCount() == 0);
+    }
+
+    /** The lists above are those of the document. */
+    private static void faceOfDocument() throws Exception {
+        String document = Files.readString(Path.of("../shared/DOC.md"));
+        TreeSet<String> methods = new TreeSet<>();
+        Matcher method = Pattern.compile("(?m)^    public (int|long) (\\w+)\\((.*)\\);$").matcher(document);
+        while (method.find()) {
+            String types = method.group(3).replaceAll(" \\w+(, |$)", ",").replaceAll(",$", "");
+            methods.add(method.group(2) + "(" + types + ") " + method.group(1));
+        }
+        Due.dueSame("methods of the document", methods.toString(), new TreeSet<>(Arrays.asList(FACE)).toString());
+        TreeSet<String> constants = new TreeSet<>();
+        Matcher told = Pattern.compile("(?m)^    public static final int (.*);$").matcher(document);
+        while (told.find()) {
+            constants.addAll(Arrays.asList(told.group(1).replace(" ", "").split(",")));
+        }
+        Due.dueSame("constants of the document", constants.toString(), new TreeSet<>(Arrays.asList(CONSTANTS)).toString());
+        Due.dueTrue("the class of the document", document.contains("\npublic final class TrapsWatchTraps {\n"));
+        Due.dueTrue("its constructor", document.contains("\n    public TrapsWatchTraps();\n"));
     }
 
     private static boolean isOpen(Member m) {

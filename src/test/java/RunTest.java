@@ -103,7 +103,7 @@ public final class RunTest {
 
     /** From another directory than the project's, as the script finds its own. */
     private RunTest start() throws IOException {
-        process = begin(project.getParent(), project.resolve(".ci/run").toString());
+        process = begin(project.getParent(), "bash", project.resolve(".ci/run").toString());
         return this;
     }
 
